@@ -116,6 +116,13 @@ public final class BansTest {
         }
         check.tells(x, "more than at first", x.longest(0), 1, 3, 2000);
         check.tells(x, "longest(1)", x.longest(1), 3, 9, 111);
+        x.bans(5, 3, 1);
+        check.tells(x, "of one match", x.longest(3), 4, 1, 0);
+        Check.play(x, 3, 2, 1, "");
+        check.tells(x, "served", x.longest(3), 4, 1, 1000);
+        check.tells(x, "one more of all", x.longest(1), 3, 9, 222);
+        x.undo();
+        x.longest(1);
         check.tells(x, "none of it", x.longest(2), -2, 9, 111);
         check.tells(x, "no cup", x.longest(4), -1, 9, 111);
     }

@@ -10,6 +10,7 @@ public final class CupsAndPlayersTest {
         rules();
         wrongRules();
         squads();
+        nothingIsLeft();
         rule();
         written();
         team();
@@ -167,9 +168,41 @@ public final class CupsAndPlayersTest {
         check.is("undo", x.undo(), -2);
         check.is("rules stay", x.rule(0, 1), 3);
         check.is("a ban's number", x.bans(11, 0, 1), 0);
+        check.is("undo", x.undo(), 0);
+        check.is("squads anew", Check.squads(x, "21"), 2);
+        check.is("in place of those there were", x.team(0), 2);
+        check.is("in place of those there were", x.team(2), -1);
         check.is("squads of none", Check.squads(x, ""), 0);
         check.is("players", x.count(0), 0);
         check.is("a player", x.cautions(0, 0), -1);
+    }
+
+    /** Nothing of what was ahead of squads() shows through in numbers that are used again. */
+    private static void nothingIsLeft() {
+        CardsAndBans x = Check.ordinary();
+        Check.given(x, "0c1n9,0c1n9,1c1n9,1c0n9");
+        Check.play(x, 0, 0, 1, "y2,y3");
+        x.appeal(0);
+        x.appeal(1);
+        x.decide(1, false, 3);
+        Check.squads(x, "0123");
+        check.tells(x, "open", x.open(0), 0);
+        check.tells(x, "frees", x.frees(0, 0), 0);
+        check.tells(x, "owed", x.owed(0), 0, 0, 0, 0, 0);
+        check.tells(x, "misses", x.misses(0, 1), 0, 0);
+        check.tells(x, "sum", x.sum(1), 0, 0, 0, 0);
+        check.is("longest", x.longest(1), -2);
+        check.is("decides", x.decides(true), -2);
+        check.tells(x, "out", x.out(0, 0), 0, 0);
+        check.is("out of some", x.count(8), 0);
+        check.is("bans", x.bans(0, 1, 2), 0);
+        int[] due = {0, 1, 2, 1, 0, 2, 0, 0};
+        for (int what = 0; what < due.length; what++) {
+            check.is("ban(0, " + what + ") anew", x.ban(0, what), due[what]);
+        }
+        check.is("bans", x.bans(0, 0, 2), 1);
+        check.is("no appeal", x.ban(1, 4), 0);
+        check.tells(x, "most", x.most(0), 0, 0, 4);
     }
 
     private static void rule() {

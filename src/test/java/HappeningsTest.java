@@ -119,6 +119,20 @@ public final class HappeningsTest {
         check.is("wiped", x.count(7), 1);
         Check.play(x, 2, 0, 2, "y4");
         check.is("no round, no wiping", x.cautions(4, 2), 1);
+
+        Check.squads(x, "0011");
+        Check.rules(x, "0o1x1;1o1x2");
+        check.is("round 1", Check.play(x, 0, 0, 1, "y0,y2"), 0);
+        check.is("wiped at once", x.count(7), 0);
+        Check.play(x, 0, 0, 1, "y0,y1,y2,y3");
+        Check.play(x, 1, 0, 1, "y0,y1,y2,y3");
+        check.is("eight", x.count(7), 8);
+        Check.play(x, 1, 0, 2, "");
+        check.is("of this team alone", x.count(7), 6);
+        check.is("of this cup alone", x.cautions(0, 0), 1);
+        check.is("of this cup alone", x.cautions(1, 0), 1);
+        check.is("wiped", x.cautions(0, 1), 0);
+        check.is("wiped", x.cautions(1, 1), 0);
     }
 
     private static void refusedCards() {

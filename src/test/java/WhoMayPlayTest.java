@@ -88,6 +88,7 @@ public final class WhoMayPlayTest {
         check.tells(x, "until(0, 0)", x.until(0, 0), 5, 3);
         x.bans(1, 0, 1);
         check.tells(x, "until(0, 0)", x.until(0, 0), 6, 2);
+        check.tells(x, "until(2, 2)", x.until(2, 2), 1, 16);
         check.tells(x, "until(2, 0)", x.until(2, 0), 0, 0);
         check.tells(x, "no team", x.until(-1, 0), -1, 0);
         check.tells(x, "no cup", x.until(0, 4), -1, 0);
@@ -165,6 +166,11 @@ public final class WhoMayPlayTest {
         check.tells(x, "costs(0, 19)", x.costs(0, 19), 3, 2);
         check.tells(x, "costs(0, 20)", x.costs(0, 20), 12, 3);
         check.tells(x, "costs(0, 40)", x.costs(0, 40), 12, 3);
+        Check.rules(x, "1o1x3:1/4,2/9;0o1x3:2/1,4/2,20/9");
+        check.tells(x, "a step of one caution", x.costs(1, 1), 4, 1);
+        check.tells(x, "two steps", x.costs(1, 2), 13, 2);
+        check.tells(x, "none", x.costs(1, 0), 0, 0);
+        x.costs(0, 40);
         check.tells(x, "n 41", x.costs(0, 41), -1, 3);
         check.tells(x, "n -1", x.costs(0, -1), -1, 3);
         check.tells(x, "no cup", x.costs(4, 1), -1, 3);
