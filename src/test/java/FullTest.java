@@ -6,6 +6,7 @@ public final class FullTest {
 
     public static void main(String[] args) {
         answers();
+        fullSquads();
         everyCall();
         allTexts();
         check.end();
@@ -42,6 +43,19 @@ public final class FullTest {
         check.is("tempts", x.tempts(11, 3, 1), -4);
         check.tells(x, "decides", x.decides(false), 100, 1, 6, 0xccc);
         check.is("out of some", x.count(8), 4095);
+    }
+
+    private static void fullSquads() {
+        CardsAndBans x = new CardsAndBans();
+        Check.squads(x, "000000000000");
+        Check.rules(x, "3o1x6:1/1,2/1,3/1,4/1");
+        for (int i = 1; i <= 5; i++) {
+            check.is("caution " + i, Check.play(x, 3, 0, 1, "y11"), i == 5 ? 0 : 1);
+            x.pardon(i - 1, 1);
+        }
+        check.tells(x, "no step more", x.cautions(11, 3), 5, -1, -1);
+        check.tells(x, "the last round", Check.play(x, 3, 0, 1, "y0"), 1, 6, 0, 0);
+        check.is("all are wiped", x.count(7), 0);
     }
 
     private static int call(CardsAndBans x, int which, int i, int k) {
