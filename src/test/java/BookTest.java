@@ -135,34 +135,6 @@ public final class BookTest {
         check.is("one", x.count(5), 1);
     }
 
-    private static String face(CardsAndBans x) {
-        StringBuilder all = new StringBuilder();
-        for (int what = 0; what <= 8; what++) {
-            all.append(what == 5 ? 0 : x.count(what)).append(' ');
-        }
-        for (int ban = 0; ban < x.count(1); ban++) {
-            for (int what = 0; what < 8; what++) {
-                all.append(x.ban(ban, what)).append(' ');
-            }
-        }
-        for (int player = 0; player < x.count(0); player++) {
-            all.append(x.team(player)).append(' ').append(x.cards(player)).append(' ');
-            for (int cup = 0; cup < 4; cup++) {
-                all.append(x.cautions(player, cup)).append(' ');
-            }
-        }
-        for (int team = 0; team < 4; team++) {
-            all.append(x.points(team)).append(' ');
-            for (int cup = 0; cup < 4; cup++) {
-                all.append(x.played(team, cup)).append(' ');
-            }
-        }
-        for (int i = 0; i < x.count(6); i++) {
-            all.append(x.book(i, 0)).append(x.book(i, 1)).append(x.book(i, 2)).append(' ');
-        }
-        return all.toString();
-    }
-
     private static int act(CardsAndBans x, int which) {
         switch (which) {
             case 0:
@@ -197,13 +169,13 @@ public final class BookTest {
             Check.play(x, 0, 0, 1, "y1,y3");
             Check.given(x, "3c0n1,5c1n2,4c0n3");
             x.appeal(2);
-            String was = face(x);
+            String was = Snapshot.of(x);
             int acts = x.count(5);
             check.is("act " + which, act(x, which) >= 0, true);
             check.is("act " + which + " is one", x.count(5), acts + 1);
-            check.is("act " + which + " changes what there is", face(x).equals(was), false);
+            check.is("act " + which + " changes what there is", Snapshot.of(x).equals(was), false);
             check.is("undo of act " + which, x.undo(), acts);
-            check.is("act " + which + " is as if it had never been", face(x).equals(was), true);
+            check.is("act " + which + " is as if it had never been", Snapshot.of(x).equals(was), true);
         }
     }
 

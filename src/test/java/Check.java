@@ -1,5 +1,6 @@
 import java.util.Arrays;
 import java.util.NoSuchElementException;
+import java.util.function.LongSupplier;
 
 /** What the tests share: texts are put in, answers and ROWS are compared, wrong ones are printed. */
 final class Check {
@@ -33,6 +34,18 @@ final class Check {
             System.out.println(name + ": " + call + " has the row " + Arrays.toString(found)
                 + ", due is " + Arrays.toString(row));
         }
+    }
+
+    /** A refused call: nothing changed, the ROW stays, and THE TEXT has so many signs behind it. */
+    void refuses(CardsAndBans x, String call, long due, int signs, LongSupplier it) {
+        String was = Snapshot.of(x);
+        long[] row = rowOf(x);
+        int acts = x.count(5);
+        is(call, it.getAsLong(), due);
+        is(call + ": the row stays", Arrays.equals(rowOf(x), row), true);
+        is(call + ": signs of the text", x.count(10), signs);
+        is(call + ": acts stay", x.count(5), acts);
+        is(call + ": nothing changed", Snapshot.of(x).equals(was), true);
     }
 
     void end() {
