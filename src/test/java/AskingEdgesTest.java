@@ -1,9 +1,12 @@
-/** Boundaries of promises 20 to 43, a method for each sentence. */
+/** Boundaries of promises 8, 9 and 20 to 43, a method for each sentence. */
 public final class AskingEdgesTest {
     private static final Check check = new Check("AskingEdgesTest");
     private static final int NONE = CardsAndBans.NONE;
 
     public static void main(String[] args) {
+        withoutPlayers();
+        teamOfAPlayer();
+        squadOfATeam();
         wouldServeFirst();
         outOfATeam();
         missesByLeft();
@@ -39,6 +42,60 @@ public final class AskingEdgesTest {
         Check.squads(x, squads);
         Check.rules(x, rules);
         return x;
+    }
+
+    /** "no PLAYERS": what is asked of TEAMS and CUPS is answered yet. */
+    private static void withoutPlayers() {
+        CardsAndBans x = new CardsAndBans();
+        for (int team = 0; team < 4; team++) {
+            for (int cup = 0; cup < 4; cup++) {
+                check.tells(x, "squad", x.squad(team), 0, 0);
+                check.tells(x, "out", x.out(team, cup), 0, 0);
+                check.tells(x, "sides", x.sides(cup, team, (team + 1) % 4), 0, 0, 0, 0);
+                check.tells(x, "until", x.until(team, cup), 0, 0);
+                check.tells(x, "risks", x.risks(team, cup), 0, 0);
+                check.tells(x, "played", x.played(team, cup), 0, NONE);
+                check.tells(x, "points", x.points(team), 0, 0, 0, 0);
+                check.tells(x, "sum", x.sum(cup), 0, 0, 0, 0);
+                check.tells(x, "fair", x.fair(), 0, 0, 1, 2, 3);
+                check.tells(x, "costs", x.costs(cup, 40), 0, 0);
+                check.tells(x, "behind", Check.behind(x, "001"), 0, 0, 0);
+            }
+        }
+    }
+
+    // ---- promises 8 and 9
+
+    /** "TEAM of a PLAYER; the ROW: BANS that are OPEN, BANS that it ever had": none, and a hundred. */
+    private static void teamOfAPlayer() {
+        CardsAndBans x = twelve("000000000003", "");
+        check.tells(x, "none", x.team(11), 3, 0, 0);
+        for (int ban = 0; ban < 100; ban++) {
+            x.bans(11, ban % 4, 1);
+        }
+        check.tells(x, "a hundred", x.team(11), 3, 100, 100);
+        x.pardon(0, 1);
+        x.appeal(99);
+        check.tells(x, "one struck, one pending", x.team(11), 3, 99, 100);
+        x.move(11, 0);
+        check.tells(x, "they go with it", x.team(11), 0, 99, 100);
+        check.tells(x, "another player", x.team(0), 0, 0, 0);
+    }
+
+    /** "PLAYERS of a TEAM, as bits; the ROW: how many": nobody, the first, the last, all. */
+    private static void squadOfATeam() {
+        CardsAndBans x = new CardsAndBans();
+        check.tells(x, "no players", x.squad(0), 0, 0);
+        for (int team = 0; team < 4; team++) {
+            Check.squads(x, String.valueOf(team).repeat(12));
+            for (int other = 0; other < 4; other++) {
+                check.tells(x, "all of " + team, x.squad(other), other == team ? 4095 : 0, other == team ? 12 : 0);
+            }
+        }
+        Check.squads(x, "011111111112");
+        check.tells(x, "the first", x.squad(0), 1, 1);
+        check.tells(x, "those between", x.squad(1), 2046, 10);
+        check.tells(x, "the last", x.squad(2), 2048, 1);
     }
 
     // ---- promises 20 to 25
@@ -157,7 +214,20 @@ public final class AskingEdgesTest {
 
     /** "how many more to the next STEP (NONE: there is none), its MATCHES (NONE)". */
     private static void nextStep() {
-        CardsAndBans x = twelve("01", "0o1x0:1/9,3/8,20/7");
+        nextStepWith("0o1x0:1/9,3/8,20/7");
+        nextStepWith("1o1x20:1/1;0a9x0:1/9,3/8,20/7;2o1x20:2/2");
+        CardsAndBans x = twelve("01", "0o1x20:2/3");
+        check.tells(x, "a round is no step", x.cautions(0, 0), 0, 2, 3);
+        Check.play(x, 0, 0, 1, "y0");
+        check.tells(x, "a round is no step", x.cautions(0, 0), 1, 1, 3);
+        Check.play(x, 0, 0, 1, "y0");
+        check.tells(x, "a round is no step", x.cautions(0, 0), 2, NONE, NONE);
+        Check.rules(x, "0o1x20:1/1,2/2,3/4");
+        check.tells(x, "the steps there are now", x.cautions(0, 0), 2, 1, 4);
+    }
+
+    private static void nextStepWith(String rules) {
+        CardsAndBans x = twelve("01", rules);
         int[] more = {1, 2, 1, 17, 16};
         int[] matches = {9, 8, 8, 7, 7};
         for (int shown = 0; shown <= 21; shown++) {

@@ -216,6 +216,8 @@ public final class BookEdgesTest {
             String was = Snapshot.of(x);
             long answer = act(x, which);
             String then = Snapshot.of(x);
+            check.is("act " + which + " is not refused", answer >= 0, true);
+            check.is("act " + which + " changes what there is", then.equals(was), which == 11);
             check.is("act " + which + " can be undone", x.count(5), 4);
             check.is("undo of " + which, x.undo(), 3);
             check.is("as if " + which + " had never been", Snapshot.of(x).equals(was), true);

@@ -8,7 +8,6 @@ public final class BookTest {
         longBook();
         told();
         undo();
-        allActsAreUndone();
         counts();
         rows();
         check.end();
@@ -133,50 +132,6 @@ public final class BookTest {
         check.is("refused calls are no acts", x.bans(1, 1, 0), -1);
         check.is("asking is no act", x.may(1, 1), 0);
         check.is("one", x.count(5), 1);
-    }
-
-    private static int act(CardsAndBans x, int which) {
-        switch (which) {
-            case 0:
-                return Check.play(x, 0, 0, 1, "y0,r1,y2,y2");
-            case 1:
-                return x.move(0, 3);
-            case 2:
-                return x.swaps(0, 4);
-            case 3:
-                return x.bans(4, 1, 3);
-            case 4:
-                return Check.given(x, "4c2n2,5c3n1");
-            case 5:
-                return x.appeal(1);
-            case 6:
-                return x.decide(2, false, 1);
-            case 7:
-                return x.decides(true);
-            case 8:
-                return x.pardon(1, 1);
-            case 9:
-                return x.season();
-            default:
-                return x.back();
-        }
-    }
-
-    private static void allActsAreUndone() {
-        for (int which = 0; which <= 10; which++) {
-            CardsAndBans x = Check.ordinary();
-            x.keeps();
-            Check.play(x, 0, 0, 1, "y1,y3");
-            Check.given(x, "3c0n1,5c1n2,4c0n3");
-            x.appeal(2);
-            String was = Snapshot.of(x);
-            int acts = x.count(5);
-            check.is("act " + which, act(x, which) >= 0, true);
-            check.is("act " + which + " is one", x.count(5), acts + 1);
-            check.is("act " + which + " changes what there is", Snapshot.of(x).equals(was), false);
-            check.is("undo of act " + which, x.undo(), acts);
-            check.is("act " + which + " is as if it had never been", Snapshot.of(x).equals(was), true);
-        }
     }
 
     private static void counts() {
