@@ -296,6 +296,9 @@ public final class AskingEdgesTest {
         Check.play(x, 0, 0, 1, "");
         check.tells(x, "played two of three", x.tempts(0, 0, 1), 0, 1, 0);
         check.tells(x, "the other team, too", x.tempts(1, 0, 1), 0, 0, 0);
+        Check.play(x, 0, 1, 2, "");
+        check.tells(x, "the other team is past it", x.tempts(1, 0, 1), 0, 0, 1);
+        check.tells(x, "it is not", x.tempts(0, 0, 1), 0, 1, 0);
         Check.given(x, "0c1n2,0c2n2,0c0n1");
         check.tells(x, "bans of all and of its own", x.tempts(0, 0, 3), 3, 0, 0);
         x.appeal(0);
@@ -409,6 +412,8 @@ public final class AskingEdgesTest {
         }
         check.tells(x, "ahead of all", Check.behind(x, ""), 4095, 0, 12);
         check.tells(x, "behind two", Check.behind(x, "001,123"), 4095, 6, 12);
+        check.tells(x, "own ones of another cup", Check.behind(x, "201"), 4095, 0, 12);
+        check.tells(x, "of team 2 alone", Check.behind(x, "201,212,220"), 4095 - 0x444, 6, 9);
         check.tells(x, "teams 0 and 3 are through", Check.behind(x, "003,003"), 4095 - 0x999, 12, 6);
         check.tells(x, "no more than there is", Check.behind(x, "003,".repeat(49) + "003"), 4095 - 0x999, 12, 6);
         x.appeal(0);

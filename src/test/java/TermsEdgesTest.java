@@ -33,6 +33,7 @@ public final class TermsEdgesTest {
         roundAboveNought();
         roundOfAllItsPlayers();
         latestSixtyEntries();
+        entriesAreNoBans();
         latestEightActs();
         rulesStay();
         check.end();
@@ -476,6 +477,23 @@ public final class TermsEdgesTest {
         check.is("the last ban", x.book(30, 1), 99);
         check.is("the earliest of 130", x.book(59, 1), 70);
         check.is("none such of 130", x.book(60, 0), NONE);
+    }
+
+    /** A hundred entries and more bring no -4: there are fewer BANS than that. */
+    private static void entriesAreNoBans() {
+        CardsAndBans x = Check.ordinary();
+        Check.fill(x, 97);
+        for (int ban = 0; ban < 50; ban++) {
+            x.appeal(ban);
+        }
+        check.is("by hand", x.bans(5, 0, 1), 97);
+        check.is("given", Check.given(x, "5c3n1"), 1);
+        check.is("by a card", Check.play(x, 2, 0, 1, "r2"), 1);
+        check.refuses(x, "a hundred", -4, 0, () -> Check.play(x, 2, 0, 1, "r3"));
+        x.undo();
+        check.is("in thought", x.tempts(3, 0, 2), 0);
+        check.is("in thought", x.row(0), 1);
+        check.refuses(x, "a hundred in thought", -4, 0, () -> x.tempts(3, 0, 9));
     }
 
     /** "ACTS, of which the latest 8 can be undone". */

@@ -22,6 +22,7 @@ public final class TextEdgesTest {
         cupsToldOnce();
         fourSteps();
         othersAsAtFirst();
+        refusedRulesStay();
         rulesAsRead();
         signsOfSquads();
         twelvePlayers();
@@ -252,16 +253,35 @@ public final class TextEdgesTest {
         goodRules("1o1x0;0o1x0", 2, AT_FIRST);
         goodRules(LONGEST, 4, LONGEST);
         CardsAndBans x = Check.ordinary();
-        Check.rules(x, "0o3x3:2/1,4/2;1a2x0");
         Check.play(x, 0, 0, 1, "y0,r2");
         x.keeps();
         x.appeal(0);
         int acts = x.count(5);
-        String was = Snapshot.of(x).substring(Check.written(x).length());
-        Check.rules(x, "0o3x3:2/1,4/2");
-        check.is("what there is else stays", Snapshot.of(x).substring(Check.written(x).length()).equals(was), true);
+        String was = Snapshot.of(x);
+        Check.rules(x, "1a9x1:1/1");
         check.is("acts stay", x.count(5), acts);
-        check.is("what is kept stays", x.back(), 1);
+        check.is("what is kept stays", x.back() + x.undo(), 1 + acts);
+        Check.rules(x, "0o3x3:2/1,4/2;1a2x0");
+        check.is("what there is else stays", Snapshot.of(x).equals(was), true);
+    }
+
+    /** A refused rules() leaves RULES as they were, whatever LINES ahead of the wrong sign told. */
+    private static void refusedRulesStay() {
+        CardsAndBans x = Check.ordinary();
+        Check.play(x, 0, 0, 1, "y0");
+        check.refuses(x, "wrong behind two lines", -37, 0, () -> Check.rules(x, "0a9x1:1/9;1o9x1;"));
+        check.refuses(x, "wrong in its steps", -31, 0, () -> Check.rules(x, "0a9x1:1/9,"));
+        check.is("kind of a ban by hand", x.bans(5, 0, 1), 0);
+        check.is("kind of a ban by hand", x.ban(0, 3), 0);
+        check.refuses(x, "wrong at its end", -30, 0, () -> Check.rules(x, "1o9x1:1/9x"));
+        Check.given(x, "5c1n1");
+        check.is("kind of one that is given", x.ban(1, 3), 1);
+        check.refuses(x, "wrong at its end", -30, 0, () -> Check.rules(x, "0a9x1:1/9x"));
+        check.tells(x, "a step, a red", Check.play(x, 0, 0, 1, "y0,r2,y3"), 2, 2, 0, 0);
+        check.is("matches of the step", x.ban(2, 2), 1);
+        check.is("matches of a red", x.ban(3, 2), 3);
+        check.is("kind of a red", x.ban(3, 3), 0);
+        check.is("no round", x.cautions(0, 0), 2);
     }
 
     /** "written as rules() reads them": what is written is read to be the same. */
@@ -327,6 +347,13 @@ public final class TextEdgesTest {
             check.is("as a new object", Snapshot.of(x).equals(Snapshot.of(fresh)), true);
             check.is("nothing to be undone", x.undo(), -2);
             check.is("nothing kept", x.back(), -2);
+            for (int i = 0; i < 9 && text.length() > 2; i++) {
+                check.is("bans anew", x.bans(2, 3, 1), i);
+                fresh.bans(2, 3, 1);
+                x.appeal(i);
+                fresh.appeal(i);
+                check.is("nothing of old bans", Snapshot.of(x).equals(Snapshot.of(fresh)), true);
+            }
             for (int team = 0; team < 4; team++) {
                 check.tells(x, "points", x.points(team), 0, 0, 0, 0);
                 check.tells(x, "played", x.played(team, 0), 0, 3);
@@ -464,6 +491,12 @@ public final class TextEdgesTest {
         matchesStand("001,1", "0123");
         matchesStand("001,10", "123");
         matchesStand("001,103", ",");
+        for (String text : new String[] {"000,123", "011,001,002", "333001"}) {
+            CardsAndBans x = Check.ordinary();
+            check.refuses(x, "plan, a team twice", -23, 0, () -> Check.plan(x, 0, text));
+            check.refuses(x, "returns, a team twice", -23, 0, () -> Check.returns(x, 0, text));
+            check.refuses(x, "behind, a team twice", -23, 0, () -> Check.behind(x, text));
+        }
     }
 
     // ---- all readers
