@@ -299,6 +299,8 @@ public final class AskingEdgesTest {
         Check.play(x, 0, 1, 2, "");
         check.tells(x, "the other team is past it", x.tempts(1, 0, 1), 0, 0, 1);
         check.tells(x, "it is not", x.tempts(0, 0, 1), 0, 1, 0);
+        x.move(1, 3);
+        check.tells(x, "of the team it is in now", x.tempts(1, 0, 3), 1, 1, 0);
         Check.given(x, "0c1n2,0c2n2,0c0n1");
         check.tells(x, "bans of all and of its own", x.tempts(0, 0, 3), 3, 0, 0);
         x.appeal(0);

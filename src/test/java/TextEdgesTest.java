@@ -186,6 +186,7 @@ public final class TextEdgesTest {
         wrongRules("0o1x05", 5);
         wrongRules("0o1x-1", 4);
         wrongRules("0o1x200", 6);
+        wrongRules("0o1x255", 5);
         goodRules("0o1x0:1/1", 1, "0o1x0:1/1;1o1x0;2o1x0;3o1x0");
         goodRules("0o1x0:20/9", 1, "0o1x0:20/9;1o1x0;2o1x0;3o1x0");
         wrongRules("0o1x0:0/1", 6);
@@ -194,6 +195,7 @@ public final class TextEdgesTest {
         wrongRules("0o1x0:99/1", 7);
         wrongRules("0o1x0:01/1", 6);
         wrongRules("0o1x0:200/1", 8);
+        wrongRules("0o1x0:211/1", 7);
         wrongRules("0o1x0:1/0", 8);
         wrongRules("0o1x0:1/10", 9);
     }
@@ -414,6 +416,7 @@ public final class TextEdgesTest {
         wrongCards("012301230123", "y12", 2);
         wrongCards("012301230123", "y20", 2);
         wrongCards("012301230123", "y110", 3);
+        wrongCards("012301230123", "y123", 2);
         wrongCards("012301230123", "y100", 3);
         wrongCards("", "y0", 1);
         wrongCards("", "r10", 2);
@@ -462,6 +465,7 @@ public final class TextEdgesTest {
         wrongGiven("01230123012", "11c0n1", 1);
         wrongGiven("012301230123", "12c0n1", 1);
         wrongGiven("012301230123", "111c0n1", 2);
+        wrongGiven("012301230123", "123c0n1", 1);
         wrongGiven("001122", "5c4n1", 2);
         wrongGiven("001122", "5c00n1", 3);
         wrongGiven("001122", "5c0n0", 4);
